@@ -397,7 +397,7 @@ public final class BoardHouse {
 
     private boolean meetsOpenAct(Area area, Act except) {
         for (Act act : acts) {
-            if (act != null && act.open && act != except && act.region.comesWithin(area, 0)) {
+            if (act != null && act.open && act != except && act.region.meets(area)) {
                 return true;
             }
         }
@@ -407,7 +407,7 @@ public final class BoardHouse {
     private boolean overlapsAnother(Thing thing, Area place) {
         for (Thing other : things) {
             if (other != null && other.there && other != thing
-                    && other.excludes(thing) && other.area.comesWithin(place, 0)) {
+                    && other.excludes(thing) && other.area.meets(place)) {
                 return true;
             }
         }
@@ -464,12 +464,12 @@ public final class BoardHouse {
                     && lowY <= a.lowY && a.lowY <= a.highY && a.highY <= highY;
         }
 
-        boolean comesWithin(Area a, int reach) {
-            return lowX <= a.highX + reach && a.lowX <= highX + reach
-                    && lowY <= a.highY + reach && a.lowY <= highY + reach;
+        boolean meets(Area a) {
+            return lowX <= a.highX && a.lowX <= highX && lowY <= a.highY && a.lowY <= highY;
         }
 
-        boolean comesWithinMoved(Area a, int reach, int dx, int dy) {
+        /** Whether this area, moved by so much, has a cell near one of the other area. */
+        boolean comesNearMoved(Area a, int reach, int dx, int dy) {
             return lowX + dx <= a.highX + reach && a.lowX <= highX + dx + reach
                     && lowY + dy <= a.highY + reach && a.lowY <= highY + dy + reach;
         }
@@ -529,7 +529,7 @@ public final class BoardHouse {
         boolean clashesMoved(Thing other, int reach, int dx, int dy) {
             return hasCopper() && other.hasCopper() && netHandle != other.netHandle
                     && (liesOn(other.layer) || other.liesOn(layer))
-                    && area.comesWithinMoved(other.area, reach, dx, dy);
+                    && area.comesNearMoved(other.area, reach, dx, dy);
         }
 
         /** All that can change of a thing, in one number. */

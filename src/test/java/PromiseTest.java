@@ -14,6 +14,7 @@ public final class PromiseTest {
         promise6Track();
         promise7Plane();
         promise8Move();
+        promise8MoveNear();
         promise8MoveThrows();
         promise9Drop();
         promise10Gap();
@@ -28,6 +29,7 @@ public final class PromiseTest {
         promise17Begin();
         promise18Work();
         promise18Regions();
+        promise18Sides();
         promise19End();
         promise19EndUndoes();
         promise20Version();
@@ -110,6 +112,10 @@ public final class PromiseTest {
             b.part(1, 1, i, 0, 0);
         }
         a.due("3 twenty", 19, () -> b.count(2));
+        b.net();
+        a.due("3 a pad of the last one", 3000, () -> b.pad(2019, 1000, 0, 0));
+        a.due("3 the last one", 19, () -> b.at(2019, 1));
+        a.due("3 is no pad", -1, () -> b.at(2019, 4));
         refused("3 full ahead of outside", b, 1, () -> b.part(1, 1, 40, 0, 0));
         BoardHouse c = new BoardHouse(1, 0);
         c.part(1, 1, 0, 0, 0);
@@ -301,6 +307,25 @@ public final class PromiseTest {
         a.due("8 inside the region", true, () -> c.move(2000, 5, 5));
     }
 
+    /** A via of another net on each side of a pad that was moved there, too near and just not. */
+    private static void promise8MoveNear() {
+        int[][] sides = {{1, 0}, {-1, 0}, {0, 1}, {0, -1}, {1, 1}, {-1, -1}, {1, -1}, {-1, 1}};
+        int[][] starts = {{0, 0}, {31, 23}, {31, 0}, {0, 23}};
+        for (int[] side : sides) {
+            for (int[] start : starts) {
+                for (int far = 3; far <= 4; far++) {
+                    BoardHouse b = house(1, 3);
+                    b.part(1, 1, start[0], start[1], 0);
+                    b.pad(2000, 1000, 0, 0);
+                    b.via(1001, 16 + far * side[0], 12 + far * side[1]);
+                    String what = "8 from " + start[0] + " to " + far + " of " + side[0] + " " + side[1];
+                    a.due(what, far > 3, () -> b.move(2000, 16, 12));
+                    a.due(what + " told", far > 3 ? 0 : 5, b::told);
+                }
+            }
+        }
+    }
+
     private static void promise8MoveThrows() {
         BoardHouse b = house(1, 0);
         b.part(1, 1, 0, 0, 0);
@@ -309,6 +334,12 @@ public final class PromiseTest {
         a.index("8 number of another kind", () -> b.move(1003, 0, 0));
         a.index("8 below", () -> b.move(-1, 0, 0));
         a.argument("8 kind", () -> b.move(1000, 0, 0));
+        b.via(1000, 9, 9);
+        b.track(1000, 0, 9, 9, 9, 9);
+        b.plane(1000, 0);
+        for (int h : new int[] {3000, 4000, 5000}) {
+            a.argument("8 a thing, but no part, " + h, () -> b.move(h, 0, 0));
+        }
         a.state("8 dropped, ahead of outside", () -> b.move(2000, -1, 0));
     }
 
@@ -383,6 +414,16 @@ public final class PromiseTest {
         a.due("11 tracks of two layers do not join", 2, () -> b.islands(1000));
         b.via(1000, 5, 2);
         a.due("11 a via joins them", 1, () -> b.islands(1000));
+        BoardHouse c = house(1, 0);
+        c.via(1000, 0, 0);
+        c.track(1000, 0, 1, 0, 30, 0);
+        c.via(1000, 31, 0);
+        c.via(1000, 0, 23);
+        c.via(1000, 31, 23);
+        c.track(1000, 0, 0, 23, 31, 23);
+        a.due("11 along the edges", 2, () -> c.islands(1000));
+        c.track(1000, 0, 31, 22, 31, 1);
+        a.due("11 along three edges", 1, () -> c.islands(1000));
         b.via(1001, 31, 1);
         b.via(1001, 0, 2);
         a.due("11 rows do not run on", 2, () -> b.islands(1001));
@@ -427,6 +468,17 @@ public final class PromiseTest {
         }
         b.drop(3001);
         a.due("12 dropped", 0, b::check);
+        int[][] sides = {{1, 0}, {-1, 0}, {0, 1}, {0, -1}};
+        for (int[] side : sides) {
+            BoardHouse c = house(1, 0);
+            c.via(1000, 16, 12);
+            c.via(1001, 16 + 2 * side[0], 12 + 2 * side[1]);
+            for (int g = 0; g <= 4; g++) {
+                int v = g;
+                c.gap(v);
+                a.due("12 side " + side[0] + " " + side[1] + " at gap " + v, v < 2 ? 0 : 1, c::check);
+            }
+        }
     }
 
     private static void promise13Near() {
@@ -474,6 +526,8 @@ public final class PromiseTest {
         a.index("14 number", () -> b.filled(5001));
         a.index("14 0", () -> b.filled(0));
         a.argument("14 kind", () -> b.filled(1000));
+        a.argument("14 a thing, but no plane", () -> b.filled(4000));
+        a.argument("14 dropped, but no plane", () -> b.filled(3000));
         b.drop(5000);
         a.state("14 dropped", () -> b.filled(5000));
     }
@@ -618,6 +672,23 @@ public final class PromiseTest {
         refused("18 from none", b, 3, () -> b.drop(3001));
         b.end(6000, true);
         a.due("18 free again", true, () -> b.drop(3001));
+    }
+
+    /** One cell beyond each side of a region, and the cell at that side of it. */
+    private static void promise18Sides() {
+        int[][] out = {{9, 4}, {14, 4}, {12, 2}, {12, 6}};
+        int[][] in = {{10, 4}, {13, 4}, {12, 3}, {12, 5}};
+        for (int i = 0; i < out.length; i++) {
+            int[] o = out[i];
+            int[] n = in[i];
+            BoardHouse b = house(1, 0);
+            b.begin(10, 3, 13, 5);
+            refused("18 in it from none", b, 3, () -> b.via(1000, n[0], n[1]));
+            a.due("18 out of it from none", 3000, () -> b.via(1000, o[0], o[1]));
+            b.work(6000);
+            refused("18 out of it", b, 3, () -> b.via(1000, o[0], o[1]));
+            a.due("18 in it", 3001, () -> b.via(1000, n[0], n[1]));
+        }
     }
 
     private static void promise19End() {
