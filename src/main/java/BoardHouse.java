@@ -663,12 +663,12 @@ public final class BoardHouse {
             for (int round = 0; grew && round <= ALL_CELLS; round++) {
                 grew = false;
                 for (int y = 0; y < ROWS; y++) {
-                    grew |= growRow(y, room);
+                    grew = growRow(y, room) || grew;
                 }
                 for (int y = ROWS - 1; y >= 0; y--) {
-                    grew |= growRow(y, room);
+                    grew = growRow(y, room) || grew;
                 }
-                grewEver |= grew;
+                grewEver = grewEver || grew;
             }
             return grewEver;
         }
@@ -879,7 +879,7 @@ public final class BoardHouse {
             for (int round = 0; grew && round <= ALL_CELLS; round++) {
                 grew = false;
                 for (int layer = 0; layer < layers; layer++) {
-                    grew |= reached[layer].growThrough(ofNet[layer]);
+                    grew = reached[layer].growThrough(ofNet[layer]) || grew;
                 }
                 // Only growth on one layer can give the points anything to carry to the others.
                 if (grew) {

@@ -35,6 +35,10 @@ final class Answers {
         due(what, "throws.IllegalStateException", call);
     }
 
+    int asked() {
+        return asked;
+    }
+
     int wrong() {
         return wrong;
     }

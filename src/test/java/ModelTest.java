@@ -2,8 +2,13 @@ import java.util.concurrent.Callable;
 
 /** Long runs of made-up calls, the same each time, on a house and on its naive model. */
 public final class ModelTest {
-    private static final int RUNS = 200;
+    private static final int RUNS = 1200;
+    // More calls on one object are not promised.
     private static final int CALLS = 512;
+    private static final int LAST_LOOK = 100;
+    // Of a hundred calls those below change, those above are of acts and versions.
+    private static final int LOOKS_FROM = 50;
+    private static final int LOOKS_END = 80;
     private static final int[] EDGES = {
         0, -1, 1, 1000, 999, 31, 32, 24, 23, Integer.MAX_VALUE, Integer.MIN_VALUE, Integer.MAX_VALUE - 3,
         2000, 3000, 4000, 5000, 6000, 7000, 8000, 1019, 2019, 3059, 4059, 5009, 6009, 7007};
@@ -14,6 +19,7 @@ public final class ModelTest {
     private final Answers answers;
     private final int style;
     private final int[] made = new int[8];
+    private int calls = 0;
 
     private ModelTest(int run, Answers answers) {
         this.seed = 77777L * run + 13;
@@ -41,16 +47,22 @@ public final class ModelTest {
     private void go(int run) {
         int first = 2 + below(4);
         for (int i = 0; i < first; i++) {
-            ask("run " + run, "net", house::net, naive::net);
+            grew(1, ask("run " + run, "net", house::net, naive::net));
         }
-        for (int call = first; call < CALLS && answers.wrong() == 0; call++) {
-            String where = "run " + run + " call " + call;
+        while (calls < CALLS - LAST_LOOK && answers.wrong() == 0) {
+            String where = "run " + run + " call " + calls;
             one(where);
-            answers.due(where + " told", naive.told(), house::told);
+            if (below(2) == 0) {
+                ask(where, "told", house::told, naive::told);
+            }
+        }
+        while (calls < CALLS && answers.wrong() == 0) {
+            look("run " + run + " call " + calls, LOOKS_FROM + below(LOOKS_END - LOOKS_FROM));
         }
     }
 
     private String ask(String where, String what, Callable<?> real, Callable<?> model) {
+        calls++;
         String want = Answers.of(model);
         answers.due(where + " " + what, want, real);
         return want;
@@ -87,11 +99,10 @@ public final class ModelTest {
     }
 
     private void one(String where) {
-        made[1] = Math.max(made[1], 2);
         int dice = below(100);
-        if (dice < 50) {
+        if (dice < LOOKS_FROM) {
             change(where, dice);
-        } else if (dice < 75) {
+        } else if (dice < LOOKS_END) {
             look(where, dice);
         } else {
             act(where, dice);
@@ -150,7 +161,7 @@ public final class ModelTest {
     }
 
     private void look(String where, int dice) {
-        if (dice < 53) {
+        if (dice < 52) {
             int v = any(style == 1 ? 2 : 5);
             ask(where, "gap", () -> house.gap(v), () -> naive.gap(v));
         } else if (dice < 58) {
@@ -165,7 +176,7 @@ public final class ModelTest {
         } else if (dice < 67) {
             int plane = handle(5);
             ask(where, "filled", () -> house.filled(plane), () -> naive.filled(plane));
-        } else if (dice < 73) {
+        } else if (dice < 78) {
             int thing = handle(2 + below(4));
             int what = any(6);
             ask(where, "at", () -> house.at(thing, what), () -> naive.at(thing, what));
@@ -177,43 +188,29 @@ public final class ModelTest {
 
     private void act(String where, int dice) {
         // Few acts and versions can be made, so most runs spread them out.
-        if (dice < 78 && below(4) == 0) {
+        if (dice < 84 && below(4) == 0) {
             boolean whole = below(3) == 0;
             int x0 = whole ? 0 : x();
             int y0 = whole ? 0 : y();
             int x1 = whole ? 31 : x0 + any(20);
             int y1 = whole ? 23 : y0 + any(20);
             grew(6, ask(where, "begin", () -> house.begin(x0, y0, x1, y1), () -> naive.begin(x0, y0, x1, y1)));
-        } else if (dice < 84) {
+        } else if (dice < 90) {
             int deed = below(5) == 0 ? 0 : latest(6);
             ask(where, "work", () -> house.work(deed), () -> naive.work(deed));
-        } else if (dice < 87) {
+        } else if (dice < 94) {
             int deed = latest(6);
             boolean keep = below(3) == 0;
             ask(where, "end", () -> house.end(deed, keep), () -> naive.end(deed, keep));
-        } else if (dice < 88 || (dice < 90 && below(4) == 0)) {
+        } else if (dice < 96) {
             grew(7, ask(where, "version", house::version, naive::version));
-        } else if (dice < 91) {
+        } else {
             int version = handle(7);
             ask(where, "back", () -> house.back(version), () -> naive.back(version));
-        } else {
-            everything(where);
         }
     }
 
     private int latest(int kind) {
         return rarely() || made[kind] == 0 ? handle(kind) : 1000 * kind + made[kind] - 1 - below(Math.min(3, made[kind]));
-    }
-
-    private void everything(String where) {
-        for (int kind = 2; kind <= 5; kind++) {
-            for (int n = 0; n < made[kind]; n++) {
-                int handle = 1000 * kind + n;
-                for (int what = 0; what <= 5; what++) {
-                    int w = what;
-                    ask(where, "at " + handle + " " + w, () -> house.at(handle, w), () -> naive.at(handle, w));
-                }
-            }
-        }
     }
 }
