@@ -610,6 +610,7 @@ public final class ActsBoundaryTest {
         s.due("told after part", OVERLAP, b::told);
         s.index("pad", () -> b.pad(2001, 1000, 0, 0));
         s.argument("pad", () -> b.pad(1000, 1000, 0, 0));
+        s.argument("pad of no net", () -> b.pad(2000, 2000, 0, 0));
         s.due("told after pad", OVERLAP, b::told);
         s.index("via", () -> b.via(1003, 0, 0));
         s.argument("via", () -> b.via(2000, 0, 0));
@@ -632,5 +633,13 @@ public final class ActsBoundaryTest {
         s.due("told of a drop", 0, b::told);
         s.state("a second drop", () -> b.drop(3001));
         s.due("told after it", 0, b::told);
+        b.drop(2000);
+        s.refused("a via", b, OUTSIDE, () -> b.via(1000, 32, 0));
+        s.state("pad of a dropped part", () -> b.pad(2000, 1000, 0, 0));
+        s.due("told after that pad", OUTSIDE, b::told);
+        s.state("move of a dropped part", () -> b.move(2000, 5, 5));
+        s.due("told after that move", OUTSIDE, b::told);
+        s.state("drop of a dropped part", () -> b.drop(2000));
+        s.due("told after that drop", OUTSIDE, b::told);
     }
 }

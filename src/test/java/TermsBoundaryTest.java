@@ -620,8 +620,11 @@ public final class TermsBoundaryTest {
         s.due("copper beside what it fills", 1, () -> b.islands(1000));
         b.drop(5000);
         s.due("a dropped plane", 2, () -> b.islands(1000));
+        b.gap(0);
         b.plane(1001, 0);
-        s.due("another net's plane", 2, () -> b.islands(1000));
+        s.due("another net's plane, which fills all but four cells", 764, () -> b.filled(5001));
+        s.due("joins nothing of this net's", 2, () -> b.islands(1000));
+        s.due("but of its own", 1, () -> b.islands(1001));
         BoardHouse cut = house(2, 0);
         cut.via(1000, 2, 2);
         cut.via(1000, 20, 20);
@@ -1119,6 +1122,12 @@ public final class TermsBoundaryTest {
             movedNear(way, 2, 17);
             movedNear(way, 30, 1);
         }
+        BoardHouse c = house(1, 0);
+        c.via(1000, 5, 5);
+        c.via(1001, 10, 5);
+        c.part(2, 2, 20, 5, 0);
+        c.pad(2000, 1000, 0, 0);
+        s.due("copper that does not move with it", true, () -> c.move(2000, 25, 5) && c.move(2000, 20, 5));
     }
 
     /** A part that is moved from x, y to where its pad is too near, and to where it is just not. */
